@@ -24,7 +24,9 @@ public final class Promise02Set {
     }
     GrooveTurns x = new GrooveTurns();
     for (int setting : new int[] {-1, 5, Integer.MIN_VALUE, Integer.MAX_VALUE}) {
-      due.error(x, "set(" + setting + ", 5)", () -> x.set(setting, 5), GrooveTurns.BAD_VALUE);
+      for (int value : new int[] {0, 5, 20}) {
+        due.error(x, "set(" + setting + ", " + value + ")", () -> x.set(setting, value), GrooveTurns.BAD_VALUE);
+      }
     }
     theSettingsWork(due);
     due.end();

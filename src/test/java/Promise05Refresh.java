@@ -5,6 +5,7 @@ public final class Promise05Refresh {
     ordinary(due);
     isAsReadAndWrite(due);
     givesASpare(due);
+    ofTheNumber0(due);
     errors(due);
     due.end();
   }
@@ -55,6 +56,16 @@ public final class Promise05Refresh {
     due.is("sector(50, 2)", x.sector(50, 2), 8);
     due.is("sector(62, 3)", x.sector(62, 3), 0);
     due.is("the old sector keeps its blur", x.track(4, 2), 4);
+  }
+
+  private static void ofTheNumber0(Due due) {
+    GrooveTurns x = new GrooveTurns();
+    x.write(0, 0);
+    x.write(12, 0);
+    due.is("refresh(0)", x.refresh(0), 4);
+    due.is("sector(0, 2)", x.sector(0, 2), 0);
+    due.is("sector(0, 3)", x.sector(0, 3), 0);
+    due.is("count(17)", x.count(17), 3);
   }
 
   private static void errors(Due due) {

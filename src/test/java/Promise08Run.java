@@ -89,6 +89,9 @@ public final class Promise08Run {
     due.is("count(12)", x.count(12), 0);
     due.is("count(16)", x.count(16), 0);
     due.is("count(17): also if nothing is different", x.count(17), 1);
+    Due.type(x, "w191=0;r191;r190");
+    due.is("run(false): the number 0 is read, too", x.run(false), 2);
+    x.undo();
     x.set(GrooveTurns.HEAT, 20);
     x.write(0, 1);
     Due.type(x, "w12=1;r0;w12=2;r0;w0=1;r0");

@@ -27,10 +27,31 @@ public final class Promise11Count {
     due.is("count(10)", x.count(10), 0);
     due.is("count(15)", x.count(15), 20);
     theGreatestBlurIsOfAnAddress(due);
+    eachTrack(due);
     for (int what : new int[] {-1, 18, Integer.MIN_VALUE, Integer.MAX_VALUE}) {
       due.error(x, "count(" + what + ")", () -> x.count(what), GrooveTurns.BAD_VALUE);
     }
     due.end();
+  }
+
+  private static void eachTrack(Due due) {
+    GrooveTurns x = new GrooveTurns();
+    x.set(GrooveTurns.FAR, 0);
+    for (int track = 0; track < 16; track++) {
+      x.write(track * 12, 1);
+      due.is("count(9)", x.count(9), track + 1);
+      due.is("count(11)", x.count(11), track + 1);
+      due.is("count(13)", x.count(13), track / 2 + 1);
+      due.is("count(14)", x.count(14), (track + 1) / 2);
+    }
+    due.is("count(15)", x.count(15), 4);
+    for (int address : new int[] {0, 1, 180, 191}) {
+      GrooveTurns y = new GrooveTurns();
+      int beside = address < 12 ? address + 12 : address - 12;
+      y.write(address, 1);
+      y.write(beside, 1);
+      due.is("count(15) of the address " + address, y.count(15), 4);
+    }
   }
 
   private static void theGreatestBlurIsOfAnAddress(Due due) {
