@@ -51,6 +51,10 @@ public final class Promise11Count {
       y.write(address, 1);
       y.write(beside, 1);
       due.is("count(15) of the address " + address, y.count(15), 4);
+      y.write(beside, 1);
+      y.set(GrooveTurns.LOST, 8);
+      due.is("count(10) of the address " + address, y.count(10), 1);
+      due.is("track(.., 1) of the address " + address, y.track(address / 12, 1), 1);
     }
   }
 
