@@ -324,11 +324,13 @@ public final class AgainstModel {
     }
   }
 
+  // An object is promised for 512 calls; the longest text takes some thirty.
+  private static final int MOST = 480;
   private static final int[] ODD = {-1, -6, 192, 256, 17, 1000, Integer.MIN_VALUE, Integer.MAX_VALUE};
 
   private final Dice dice;
   private final Due due;
-  private final GrooveTurns x = new GrooveTurns();
+  private final Run x;
   private final Model m = new Model();
   private final String run;
   // Few sectors of few tracks, so that much lies beside each other.
@@ -336,6 +338,7 @@ public final class AgainstModel {
 
   private AgainstModel(Due due, int seed) {
     this.due = due;
+    this.x = due.fresh();
     this.dice = new Dice(seed);
     this.run = "run " + seed + ": ";
     tracks = 1 + dice.below(6);
@@ -345,8 +348,9 @@ public final class AgainstModel {
 
   public static void main(String[] args) {
     Due due = new Due();
-    for (int seed = 0; seed < 400; seed++) new AgainstModel(due, seed).calls(seed % 4 == 0 ? 40 : 500);
-    due.end();
+    int[] calls = {60, 300, 300, MOST};
+    for (int seed = 0; seed < 600; seed++) new AgainstModel(due, seed).calls(calls[seed % calls.length]);
+    if (!due.isRight()) System.exit(1);
   }
 
   private int address() {
@@ -366,11 +370,11 @@ public final class AgainstModel {
   private void calls(int count) {
     int wear = dice.of(1, 2, 5, 20);
     is("set(3, ..)", x.set(3, wear), m.set(3, wear));
-    for (int i = 0; i < count; i++) {
+    while (x.made() < count) {
       int kind = dice.below(24);
       if (kind < 12) change(kind); else if (kind < 20) look(kind - 12); else if (kind < 22) text(); else keep();
     }
-    everything();
+    if (count < MOST) everything();
   }
 
   private void change(int kind) {
@@ -422,7 +426,7 @@ public final class AgainstModel {
     }
     if (dice.once(5)) text.setCharAt(dice.below(text.length()), "wr=;0129x".charAt(dice.below(9)));
     for (int from = 0; from < text.length(); from += 8) {
-      long packed = Due.packed(text.substring(from, Math.min(text.length(), from + 8)));
+      long packed = Run.packed(text.substring(from, Math.min(text.length(), from + 8)));
       is("put(" + packed + ")", x.put(packed), m.put(packed));
     }
     is("fault() of " + m.pad, x.fault(), m.fault());
@@ -439,12 +443,17 @@ public final class AgainstModel {
   }
 
   private void everything() {
-    for (int what = 0; what < 18; what++) is("count(" + what + ")", x.count(what), m.count(what));
-    for (int track = 0; track < 17; track++) {
-      for (int what = 0; what < 4; what++) is("track(" + track + ", " + what + ")", x.track(track, what), m.track(track, what));
+    for (int what = 0; what < 18; what++) {
+      int w = what;
+      is("count(" + w + ")", x.probe(o -> o.count(w)), m.count(w));
     }
-    for (int a = 0; a < 192; a++) {
-      for (int what = 0; what < 7; what++) is("sector(" + a + ", " + what + ")", x.sector(a, what), m.sector(a, what));
+    for (int ask = 0; ask < 17 * 4; ask++) {
+      int track = ask / 4, w = ask % 4;
+      is("track(" + track + ", " + w + ")", x.probe(o -> o.track(track, w)), m.track(track, w));
+    }
+    for (int ask = 0; ask < 192 * 7; ask++) {
+      int a = ask / 7, w = ask % 7;
+      is("sector(" + a + ", " + w + ")", x.probe(o -> o.sector(a, w)), m.sector(a, w));
     }
   }
 }

@@ -30,9 +30,14 @@ public final class LanguageRules {
   private static final Set<Tree.Kind> FORBIDDEN = Set.of(Tree.Kind.THROW, Tree.Kind.TRY, Tree.Kind.CATCH,
       Tree.Kind.SYNCHRONIZED, Tree.Kind.ASSERT, Tree.Kind.LAMBDA_EXPRESSION, Tree.Kind.MEMBER_REFERENCE,
       Tree.Kind.PACKAGE, Tree.Kind.ANNOTATION);
-  private static final Set<String> LIBRARY = Set.of("java.util.Arrays.fill", "java.util.Arrays.copyOf",
-      "java.util.Arrays.copyOfRange", "java.lang.System.arraycopy", "java.lang.Math.min", "java.lang.Math.max",
-      "java.lang.Math.abs", "java.lang.Math.floorMod", "java.lang.Math.floorDiv", "java.lang.Object.<init>");
+  private static final Map<String, String> LIBRARY = Map.of(
+      "java.lang.String", "length|charAt|isEmpty|equals|indexOf|substring|toCharArray|<init>",
+      "java.lang.StringBuilder", "<init>|append|charAt|setCharAt|setLength|deleteCharAt|reverse|length|toString",
+      "java.util.ArrayList", "<init>|add|get|set|remove|size|isEmpty|clear",
+      "java.util.List", "add|get|set|remove|size|isEmpty|clear|of",
+      "java.lang.Math", "compare|max|min|abs|bitCount|floorDiv|floorMod",
+      "java.lang.Integer", "compare|max|min|bitCount", "java.lang.Long", "compare|max|min|bitCount",
+      "java.lang.System", "arraycopy", "java.util.Arrays", "copyOf|copyOfRange|fill", "java.lang.Object", "<init>");
 
   private final Set<String> broken = new LinkedHashSet<>();
   private final Map<Element, Set<Element>> calls = new HashMap<>();
@@ -163,8 +168,9 @@ public final class LanguageRules {
     private void called(Element target) {
       String owner = target.getEnclosingElement().toString();
       if (!owner.startsWith("GrooveTurns")) {
-        String name = owner + "." + target.getSimpleName();
-        if (!LIBRARY.contains(name)) breaks(4, name);
+        String name = target.getSimpleName().toString();
+        String known = LIBRARY.getOrDefault(owner.replaceAll("<.*", ""), "");
+        if (!name.matches(known) && !owner.equals("Array")) breaks(4, owner + "." + name);
         return;
       }
       TreePath path = getCurrentPath();

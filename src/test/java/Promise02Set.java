@@ -1,55 +1,86 @@
 /** Promise 2: set. */
-public final class Promise02Set {
-  private static final int[] LOWEST = {0, 0, 5, 1, 0};
-  private static final int[] HIGHEST = {20, 20, 99, 99, 20};
-  private static final int[] FIRST = {4, 1, 30, 20, 2};
-
+public final class Promise02Set implements Codes {
   public static void main(String[] args) {
-    Due due = new Due();
-    for (int setting = 0; setting < 5; setting++) {
-      GrooveTurns x = new GrooveTurns();
-      String call = "set(" + setting + ", ..)";
-      final int s = setting;
-      due.is(call + " lowest", x.set(s, LOWEST[s]), FIRST[s]);
-      due.is("count of it", x.count(s), LOWEST[s]);
-      due.is(call + " highest", x.set(s, HIGHEST[s]), LOWEST[s]);
-      due.is("count of it", x.count(s), HIGHEST[s]);
-      due.is(call + " the same", x.set(s, HIGHEST[s]), HIGHEST[s]);
-      due.is("count(17)", x.count(17), 3);
-      for (int other = 0; other < 5; other++) {
-        if (other != s) due.is("count(" + other + ")", x.count(other), FIRST[other]);
-      }
-      int[] bad = {LOWEST[s] - 1, HIGHEST[s] + 1, Integer.MIN_VALUE, Integer.MAX_VALUE};
-      for (int value : bad) due.error(x, "set(" + s + ", " + value + ")", () -> x.set(s, value), GrooveTurns.BAD_VALUE);
+    Sentences s = new Sentences();
+    range(s, "HEAT (0 to 20; 4)", HEAT, 0, 20, 4);
+    range(s, "FAR (0 to 20; 1)", FAR, 0, 20, 1);
+    range(s, "LOST (5 to 99; 30)", LOST, 5, 99, 30);
+    range(s, "WEAR (1 to 99; 20)", WEAR, 1, 99, 20);
+    range(s, "STEP (0 to 20; 2)", STEP, 0, 20, 2);
+    s.test(2, "Changes a setting.", "no other setting, and nothing else", Promise02Set::thatOneAlone);
+    s.test(2, "Changes a setting.", "blur that is there stays as it is", Promise02Set::blurStays);
+    s.test(2, "This is a change.", "it is recorded, and undone", due -> due.isOneChange(due.fresh(), x -> x.set(HEAT, 9)));
+    s.test(2, "This is a change.", "also if the value is the same", due -> due.isOneChange(due.fresh(), x -> x.set(HEAT, 4)));
+    s.test(2, "Returns the previous value", "the first one, the one set, and 0", Promise02Set::previous);
+    s.test(2, "BAD_VALUE if there is no such setting", "0 and 4 are settings", Promise02Set::firstAndLastSetting);
+    for (int setting : new int[] {-1, 5, 17, LEAST, MOST}) {
+      s.test(2, "BAD_VALUE if there is no such setting", setting + " is none", due -> {
+        for (int value : new int[] {0, 5, 20}) due.refused(due.busy(), BAD_VALUE, x -> x.set(setting, value));
+      });
     }
-    GrooveTurns x = new GrooveTurns();
-    for (int setting : new int[] {-1, 5, Integer.MIN_VALUE, Integer.MAX_VALUE}) {
-      for (int value : new int[] {0, 5, 20}) {
-        due.error(x, "set(" + setting + ", " + value + ")", () -> x.set(setting, value), GrooveTurns.BAD_VALUE);
-      }
-    }
-    theSettingsWork(due);
-    due.end();
+    s.test(2, "BAD_VALUE if there is no such setting, or value is out of its range", "both at once",
+        due -> due.refused(due.busy(), BAD_VALUE, x -> x.set(5, -1)));
+    s.end();
   }
 
-  private static void theSettingsWork(Due due) {
-    GrooveTurns x = new GrooveTurns();
-    x.write(24, 1);
-    x.write(36, 1);
-    due.is("blur beside", x.sector(24, 3), 4);
-    x.set(GrooveTurns.HEAT, 10);
-    x.write(36, 2);
-    due.is("blur beside", x.sector(24, 3), 14);
-    x.set(GrooveTurns.FAR, 7);
-    x.write(48, 2);
-    due.is("blur two away", x.sector(24, 3), 21);
-    x.set(GrooveTurns.LOST, 21);
-    due.is("sector(24, 6)", x.sector(24, 6), 0);
-    x.set(GrooveTurns.LOST, 22);
-    due.is("sector(24, 6)", x.sector(24, 6), 1);
-    x.set(GrooveTurns.WEAR, 1);
-    due.is("write(24, 5) to a spare", x.write(24, 5) > 0 ? x.sector(24, 0) : -9, 16);
-    x.set(GrooveTurns.STEP, 20);
-    due.is("seek(0)", x.seek(0), 320);
+  private static void range(Sentences s, String sentence, int setting, int lowest, int highest, int first) {
+    s.test(2, sentence, first + " at first", due -> due.is(due.fresh().count(setting), first));
+    s.test(2, sentence, lowest + " is taken", due -> taken(due, setting, lowest, first));
+    s.test(2, sentence, highest + " is taken", due -> taken(due, setting, highest, first));
+    for (int value : new int[] {lowest - 1, highest + 1}) {
+      s.test(2, sentence, value + " is refused", due -> due.refused(due.busy(), BAD_VALUE, x -> x.set(setting, value)));
+    }
+    s.test(2, "or value is out of its range", "far out, for the setting " + setting, due -> {
+      for (int value : new int[] {-100, 256, LEAST, MOST}) due.refused(due.busy(), BAD_VALUE, x -> x.set(setting, value));
+    });
+  }
+
+  private static void taken(Due due, int setting, int value, int before) {
+    Run x = due.fresh();
+    due.is(x.set(setting, value), before);
+    due.is(x.count(setting), value);
+  }
+
+  private static void thatOneAlone(Due due) {
+    for (int setting = HEAT; setting <= STEP; setting++) {
+      Run x = due.busy();
+      Run y = due.busy();
+      y.set(setting, y.count(setting));
+      x.set(setting, 15);
+      due.is(x.count(setting), 15);
+      for (int what = 0; what <= UNDOS; what++) {
+        if (what != setting && what != UNREADABLE) due.is(x.count(what), y.count(what));
+      }
+      for (int track = 0; track <= 16; track++) due.is(x.track(track, BLUR_ON), y.track(track, BLUR_ON));
+    }
+  }
+
+  private static void blurStays(Due due) {
+    Run x = due.fresh();
+    x.write(0, 1);
+    x.write(12, 1);
+    x.set(HEAT, 20);
+    x.set(FAR, 20);
+    x.set(LOST, 5);
+    due.is(x.sector(0, BLUR), 4);
+    due.is(x.sector(0, READABLE), 1);
+  }
+
+  private static void previous(Due due) {
+    Run x = due.fresh();
+    due.is(x.set(STEP, 0), 2);
+    due.is(x.set(STEP, 20), 0);
+    due.is(x.set(STEP, 7), 20);
+    due.is(x.set(STEP, 7), 7);
+    due.is(x.set(STEP, 21), BAD_VALUE);
+    due.is(x.set(STEP, 8), 7);
+  }
+
+  private static void firstAndLastSetting(Due due) {
+    Run x = due.fresh();
+    due.is(x.set(0, 5), 4);
+    due.is(x.set(4, 5), 2);
+    due.is(x.count(HEAT), 5);
+    due.is(x.count(STEP), 5);
   }
 }

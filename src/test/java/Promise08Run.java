@@ -1,148 +1,291 @@
 /** Promise 8: run. */
-public final class Promise08Run {
+public final class Promise08Run implements Codes {
+  private static final String DOES = "Does the requests of the pad, and empties the pad";
+  private static final String PASSED = "one for which its method would return an error is passed over";
+  private static final String LOWEST = "whether they are done by their tracks, from the lowest on";
+  private static final String SAME = "those of the same track as they stand";
+  private static final String AHEAD = "(by the tracks that they have ahead of all)";
+  private static final String STAND = "otherwise all as they stand";
+
   public static void main(String[] args) {
-    Due due = new Due();
-    asTheyStand(due);
-    byTracks(due);
-    tracksAheadOfAll(due);
-    sameTrackAsTheyStand(due);
-    passedOver(due);
-    oneChange(due);
-    aFullPad(due);
-    errors(due);
-    due.end();
+    Sentences s = new Sentences();
+    s.test(8, DOES, "one request, and as many as a pad can hold", Promise08Run::oneAndTwenty);
+    s.test(8, DOES, "a pad of 60 characters", Promise08Run::sixtyCharacters);
+    s.test(8, DOES, "the pad is empty then, and can be filled again", Promise08Run::emptied);
+    s.test(8, DOES, "they are as write() and read() are", Promise08Run::asTheMethods);
+    s.test(8, PASSED, "a read of nothing", Promise08Run::nothing);
+    s.test(8, PASSED, "a read of what is lost, or is lost on the way", Promise08Run::lost);
+    s.test(8, PASSED, "all of them: the pad is emptied, and 0 are done", Promise08Run::allPassedOver);
+    s.test(8, PASSED, "it takes no ticks, and moves no head", Promise08Run::takesNoTicks);
+    s.test(8, PASSED, "what is written on the way can be read", Promise08Run::writtenOnTheWay);
+    s.test(8, LOWEST, "the tracks 15, 0 and 1", Promise08Run::lowestFirst);
+    s.test(8, LOWEST, "the track 16 comes last", Promise08Run::sparesLast);
+    s.test(8, SAME, "not by their sectors or numbers", Promise08Run::asTheyStandOnATrack);
+    s.test(8, SAME, "also those on spares", Promise08Run::asTheyStandOnSpares);
+    s.test(8, AHEAD, "one that gets a spare on the way keeps its place", Promise08Run::aheadOfAll);
+    s.test(8, AHEAD, "one that will get a spare is on its own track still", Promise08Run::wornGoesFirst);
+    s.test(8, STAND, "from the highest to the lowest", Promise08Run::asTheyStand);
+    s.test(8, "This is a change.", "one alone for all requests", Promise08Run::oneChange);
+    s.test(8, "This is a change.", "also if none is done", Promise08Run::changeOfNothing);
+    s.test(8, "This is a change.", "undo does not fill the pad again", Promise08Run::padStaysEmpty);
+    s.test(8, "Returns how many requests are done", "0, 1, and not those passed over", Promise08Run::howMany);
+    s.test(8, "BAD_TEXT if the pad has a fault", "an empty pad", due -> {
+      due.refused(due.fresh(), BAD_TEXT, x -> x.run(true));
+      due.refused(due.fresh(), BAD_TEXT, x -> x.run(false));
+    });
+    for (String text : new String[] {"w1=2;", "w1", "w1=", "r192", "r1;w0=256", "x", ";", "r1;;r2", "r01", "r1r2"}) {
+      s.test(8, "BAD_TEXT if the pad has a fault", "the pad " + text, due -> badText(due, text));
+    }
+    s.test(8, "BAD_TEXT if the pad has a fault", "one character more, and it has none", Promise08Run::mended);
+    s.end();
+  }
+
+  private static String repeated(String request, int times) {
+    StringBuilder text = new StringBuilder(request);
+    for (int i = 1; i < times; i++) text.append(';').append(request);
+    return text.toString();
+  }
+
+  private static void oneAndTwenty(Due due) {
+    for (boolean isByTracks : new boolean[] {true, false}) {
+      Run x = due.fresh();
+      x.type("w0=1");
+      due.is(x.run(isByTracks), 1);
+      due.is(x.type(repeated("r0", 20)), 59);
+      due.is(x.run(isByTracks), 20);
+      due.is(x.count(READS), 20);
+      due.is(x.count(TICKS), 1 + 20 * 12);
+    }
+  }
+
+  private static void sixtyCharacters(Due due) {
+    for (boolean isByTracks : new boolean[] {true, false}) {
+      Run x = due.fresh();
+      due.is(x.type("w191=255;w100=100;w101=101;w102=102;w103=103;w104=104;w105=1"), 60);
+      due.is(x.run(isByTracks), 7);
+      due.is(x.sector(191, HOLDS), 255);
+      for (int address = 100; address <= 104; address++) due.is(x.sector(address, HOLDS), address);
+      due.is(x.sector(105, HOLDS), 1);
+      due.is(x.count(FILLED), 7);
+    }
+  }
+
+  private static void emptied(Due due) {
+    Run x = due.fresh();
+    x.type("w5=6;r5");
+    due.is(x.run(false), 2);
+    due.is(x.count(PAD), 0);
+    due.is(x.fault(), 0);
+    due.is(x.run(false), BAD_TEXT);
+    due.is(x.type("r5"), 2);
+    due.is(x.run(false), 1);
+  }
+
+  private static void asTheMethods(Due due) {
+    Run one = due.fresh();
+    Run other = due.fresh();
+    for (Run x : new Run[] {one, other}) {
+      x.set(WEAR, 2);
+      x.set(HEAT, 11);
+    }
+    one.type("w30=0;w42=255;r30;w42=9;w42=10;w42=11;r42;r30;w29=1;r31");
+    due.is(one.run(false), 9);
+    other.write(30, 0);
+    other.write(42, 255);
+    other.read(30);
+    other.write(42, 9);
+    other.write(42, 10);
+    other.write(42, 11);
+    other.read(42);
+    other.read(30);
+    other.write(29, 1);
+    other.read(31);
+    due.same("behind run(false)", one.disc(), other.disc());
+  }
+
+  private static void nothing(Due due) {
+    Run x = due.fresh();
+    x.type("r5;w6=1;r7;r6");
+    due.is(x.run(false), 2);
+    due.is(x.count(READS), 1);
+    due.is(x.count(FILLED), 1);
+  }
+
+  private static void lost(Due due) {
+    Run x = due.busy();
+    x.wipe();
+    x.type("r12;r36;w36=1;r12");
+    due.is(x.run(false), 2);
+    Run y = due.fresh();
+    y.set(HEAT, 20);
+    y.write(0, 1);
+    y.type("w12=1;r0;w12=2;r0;w0=1;r0");
+    due.is(y.run(false), 5);
+    due.is(y.count(READS), 2);
+  }
+
+  private static void allPassedOver(Due due) {
+    for (boolean isByTracks : new boolean[] {true, false}) {
+      Run x = due.fresh();
+      x.type("r5;r6;r190");
+      String before = x.disc();
+      due.is(x.run(isByTracks), 0);
+      due.same("the disc", x.disc(), before);
+      due.is(x.count(PAD), 0);
+    }
+  }
+
+  private static void takesNoTicks(Due due) {
+    Run x = due.fresh();
+    x.type("r191;w0=1;r100;w1=1");
+    due.is(x.run(false), 2);
+    due.is(x.count(TICKS), 2);
+    due.is(x.count(HEAD), 0);
+    due.is(x.count(READS), 0);
+  }
+
+  private static void writtenOnTheWay(Due due) {
+    Run x = due.fresh();
+    x.type("r5;w5=8;r5");
+    due.is(x.run(false), 2);
+    due.is(x.count(READS), 1);
+  }
+
+  private static void lowestFirst(Due due) {
+    Run x = due.fresh();
+    // w0 1; w12 to 3, 12, 13; w24 to 15, 24, 25; w180 to 51, 60, 61.
+    x.type("w180=1;w24=2;w0=3;w12=4");
+    due.is(x.run(true), 4);
+    due.is(x.count(TICKS), 61);
+    due.is(x.count(HEAD), 15);
+    // 12 heats 0, 24 heats 12, and 0 as far.
+    due.is(x.sector(0, BLUR), 5);
+    due.is(x.sector(12, BLUR), 4);
+    due.is(x.sector(24, BLUR), 0);
+  }
+
+  private static void sparesLast(Due due) {
+    Run x = due.fresh();
+    x.write(3, 1);
+    x.set(WEAR, 1);
+    x.write(3, 2);
+    x.set(WEAR, 99);
+    x.type("w3=9;w180=7;w0=1");
+    due.is(x.run(true), 3);
+    due.is(x.count(HEAD), 16);
+    due.is(x.sector(3, HOLDS), 9);
+    due.is(x.count(SPARES), 11);
+  }
+
+  private static void asTheyStandOnATrack(Due due) {
+    Run x = due.fresh();
+    // At 2 on the track 1: the sector 11 until 12, the sector 0 until 13.
+    x.type("w23=1;w12=2");
+    due.is(x.ifRun(true), 13);
+    due.is(x.wipe(), 11);
+    x.type("w12=2;w23=1");
+    due.is(x.ifRun(true), 24);
+    x.wipe();
+    x.type("w20=9;w20=1;r0;w20=5;r20;w20=3");
+    due.is(x.run(true), 5);
+    due.is(x.sector(20, HOLDS), 3);
+  }
+
+  private static void asTheyStandOnSpares(Due due) {
+    Run x = due.fresh();
+    x.write(100, 1);
+    x.write(5, 1);
+    x.set(WEAR, 1);
+    x.write(100, 1);
+    x.write(5, 1);
+    // Both are on the track 16: 5 stands first, and gets the spare 2.
+    x.type("w5=7;w100=8");
+    due.is(x.run(true), 2);
+    due.is(x.sector(5, PLACE), 2);
+    due.is(x.sector(100, PLACE), 3);
+  }
+
+  private static void aheadOfAll(Due due) {
+    Run x = due.fresh();
+    x.set(WEAR, 1);
+    x.type("w5=1;w5=2;r5;w17=4");
+    due.is(x.run(true), 4);
+    due.is(x.sector(5, HAS_SPARE), 1);
+    due.is(x.count(READS), 1);
+    due.is(x.count(HEAD), 1);
+  }
+
+  private static void wornGoesFirst(Due due) {
+    Run x = due.fresh();
+    x.set(WEAR, 1);
+    x.write(5, 1);
+    x.type("w17=4;w5=2");
+    due.is(x.run(true), 2);
+    due.is(x.sector(5, HAS_SPARE), 1);
+    due.is(x.count(HEAD), 1);
   }
 
   private static void asTheyStand(Due due) {
-    GrooveTurns x = new GrooveTurns();
-    Due.type(x, "w36=9;w0=4;r36");
-    due.is("run(false)", x.run(false), 3);
-    // 6 to the track 3, the sector 0 at 12, ends at 13; back to 19, the sector 0 at 24, ends at 25; 31, 36, 37.
-    due.is("count(5)", x.count(5), 37);
-    due.is("count(6)", x.count(6), 3);
-    due.is("count(16)", x.count(16), 0);
-    due.is("sector(36, 2)", x.sector(36, 2), 9);
-    due.is("sector(0, 2)", x.sector(0, 2), 4);
-    due.is("count(12)", x.count(12), 1);
-    due.is("fault()", x.fault(), 0);
-  }
-
-  private static void byTracks(Due due) {
-    GrooveTurns x = new GrooveTurns();
-    Due.type(x, "w36=9;w0=4;r36;w12=1");
-    due.is("run(true)", x.run(true), 4);
-    // w0 1; w12 to 3, 12, 13; w36 to 17, 24, 25; r36 at 36, ends at 37.
-    due.is("count(5)", x.count(5), 37);
-    due.is("count(6)", x.count(6), 3);
-    // w12 heats the sector of 0; w36 comes behind it, and blurs 12 by FAR.
-    due.is("sector(0, 3)", x.sector(0, 3), 4);
-    due.is("sector(12, 3)", x.sector(12, 3), 1);
-    due.is("sector(36, 3)", x.sector(36, 3), 0);
-    GrooveTurns y = new GrooveTurns();
-    Due.type(y, "w36=9;w0=4;r36;w12=1");
-    y.run(false);
-    due.is("sector(36, 3) as they stand", y.sector(36, 3), 1);
-  }
-
-  private static void tracksAheadOfAll(Due due) {
-    GrooveTurns x = new GrooveTurns();
-    x.set(GrooveTurns.WEAR, 1);
-    x.write(3, 1);
-    x.write(3, 2);
-    x.write(180, 5);
-    x.seek(0);
-    // 3 is on a spare, the track 16; 5 gets a spare only while the requests are done.
-    Due.type(x, "w3=9;w180=7;w5=1;w5=2;w6=8;r5");
-    due.is("run(true)", x.run(true), 6);
-    // w5=1, w5=2 (spare 1), w6, r5 from the spare, w180 (spare 2), w3 (spare 3).
-    due.is("sector(5, 1)", x.sector(5, 1), 1);
-    due.is("sector(180, 1)", x.sector(180, 1), 2);
-    due.is("sector(3, 1)", x.sector(3, 1), 3);
-    due.is("sector(5, 2)", x.sector(5, 2), 2);
-    due.is("count(6)", x.count(6), 16);
-    GrooveTurns y = new GrooveTurns();
-    y.set(GrooveTurns.WEAR, 1);
-    y.write(5, 1);
-    Due.type(y, "w5=2;w17=4");
-    // 5 stands on the track 0 ahead of all, though it gets a spare: it goes first, and the head ends at the track 1.
-    due.is("run(true)", y.run(true), 2);
-    due.is("count(6)", y.count(6), 1);
-  }
-
-  private static void sameTrackAsTheyStand(Due due) {
-    GrooveTurns x = new GrooveTurns();
-    Due.type(x, "r20;w20=1;r14;r20;w14=2;w20=3;w1=1");
-    due.is("ifRun(true)", x.ifRun(true), 2 + 7 + 12 + 6 + 6);
-    due.is("run(true)", x.run(true), 5);
-    due.is("sector(20, 2)", x.sector(20, 2), 3);
-    due.is("sector(14, 2)", x.sector(14, 2), 2);
-    due.is("count(12): r20 behind its writing alone", x.count(12), 1);
-    due.is("count(7): behind the sector 8", x.count(7), 9);
-  }
-
-  private static void passedOver(Due due) {
-    GrooveTurns x = new GrooveTurns();
-    Due.type(x, "r5;r6;r190");
-    due.is("run(false)", x.run(false), 0);
-    due.is("count(5)", x.count(5), 0);
-    due.is("count(6)", x.count(6), 0);
-    due.is("count(12)", x.count(12), 0);
-    due.is("count(16)", x.count(16), 0);
-    due.is("count(17): also if nothing is different", x.count(17), 1);
-    Due.type(x, "w191=0;r191;r190");
-    due.is("run(false): the number 0 is read, too", x.run(false), 2);
-    x.undo();
-    x.set(GrooveTurns.HEAT, 20);
-    x.write(0, 1);
-    Due.type(x, "w12=1;r0;w12=2;r0;w0=1;r0");
-    due.is("run(false) with a loss on the way", x.run(false), 5);
-    due.is("count(12)", x.count(12), 2);
+    Run x = due.fresh();
+    x.type("w36=9;w0=4;r36;w12=1");
+    due.is(x.run(false), 4);
+    // 6 to the track 3, the sector 0 at 12, ends at 13; back to 19, 24, 25; 31, 36, 37; back to 41, 48, 49.
+    due.is(x.count(TICKS), 49);
+    due.is(x.count(HEAD), 1);
+    due.is(x.sector(36, BLUR), 1);
+    due.is(x.sector(0, BLUR), 4);
+    due.is(x.sector(12, BLUR), 0);
   }
 
   private static void oneChange(Due due) {
-    GrooveTurns x = new GrooveTurns();
+    Run x = due.fresh();
     x.write(7, 7);
-    String before = Due.disc(x);
-    Due.type(x, "w0=1;w1=2;w7=3");
-    x.run(false);
-    due.is("count(17)", x.count(17), 2);
-    Due.type(x, "r1");
-    due.is("undo()", x.undo(), 1);
-    due.same("behind undo()", Due.disc(x), before);
-    due.is("the pad is as it was", x.count(16), 2);
+    x.type("w0=1;w1=2;w7=3;r7");
+    due.isOneChange(x, r -> r.run(false));
+    x.type("w0=1;w12=2;w7=3;r7");
+    due.isOneChange(x, r -> r.run(true));
   }
 
-  private static void aFullPad(Due due) {
-    GrooveTurns x = new GrooveTurns();
-    StringBuilder text = new StringBuilder("w1=4");
-    while (text.length() < 58) text.append(";r1");
-    Due.type(x, text.toString());
-    due.is("count(16)", x.count(16), 58);
-    due.is("run(true)", x.run(true), 19);
-    due.is("count(12)", x.count(12), 18);
-    x.write(0, 1);
-    text = new StringBuilder("r0");
-    while (text.length() < 59) text.append(";r0");
-    Due.type(x, text.toString());
-    due.is("count(16)", x.count(16), 59);
-    due.is("ifRun(true)", x.ifRun(true), 20 * 12);
-    due.is("ifRun(false)", x.ifRun(false), 20 * 12);
-    due.is("run(true)", x.run(true), 20);
-    Due.type(x, "w191=255;w100=100;w101=100;w102=100;w103=100;w104=100;w105=1");
-    due.is("count(16)", x.count(16), 60);
-    due.is("run(true)", x.run(true), 7);
-    due.is("sector(105, 2)", x.sector(105, 2), 1);
-    due.is("sector(191, 2)", x.sector(191, 2), 255);
+  private static void changeOfNothing(Due due) {
+    Run x = due.fresh();
+    x.type("r5;r6");
+    due.isOneChange(x, r -> r.run(false));
   }
 
-  private static void errors(Due due) {
-    GrooveTurns x = new GrooveTurns();
-    due.error(x, "run(true) of an empty pad", () -> x.run(true), GrooveTurns.BAD_TEXT);
-    for (String text : new String[] {"w1=2;", "w1", "r192", "w0=256", "x", "r1;;r2"}) {
-      x.wipe();
-      Due.type(x, text);
-      due.error(x, "run(true) of " + text, () -> x.run(true), GrooveTurns.BAD_TEXT);
-      due.error(x, "run(false) of " + text, () -> x.run(false), GrooveTurns.BAD_TEXT);
-    }
+  private static void padStaysEmpty(Due due) {
+    Run x = due.fresh();
+    x.type("w5=6");
+    x.run(true);
+    due.is(x.undo(), 0);
+    due.is(x.count(PAD), 0);
+    due.is(x.count(FILLED), 0);
+  }
+
+  private static void howMany(Due due) {
+    Run x = due.fresh();
+    x.type("r0;r1;r191");
+    due.is(x.run(true), 0);
+    x.type("w0=0");
+    due.is(x.run(true), 1);
+    x.type("r1;r0;r191");
+    due.is(x.run(true), 1);
+  }
+
+  private static void badText(Due due, String text) {
+    Run x = due.busy();
+    x.wipe();
+    x.type(text);
+    due.refused(x, BAD_TEXT, r -> r.run(true));
+    due.refused(x, BAD_TEXT, r -> r.run(false));
+    due.is(x.count(PAD), text.length());
+  }
+
+  private static void mended(Due due) {
+    Run x = due.fresh();
+    x.type("w1=1;r");
+    due.is(x.run(true), BAD_TEXT);
+    due.is(x.count(PAD), 6);
+    x.put('1');
+    due.is(x.run(true), 2);
   }
 }

@@ -1,77 +1,100 @@
-/** Compares answers with those that are due, and ends a test with exit code 1 if one was wrong. */
-final class Due {
-  private int wrong = 0;
-  private int asked = 0;
+import java.util.function.Consumer;
+import java.util.function.ToIntFunction;
 
-  void is(String call, long got, long want) {
+/** Compares answers with those that are due, in one test. */
+final class Due implements Codes {
+  private int asked = 0;
+  private int wrong = 0;
+  private String latest = "nothing";
+
+  boolean isRight() {
+    return asked > 0 && wrong == 0;
+  }
+
+  void notes(String call) {
+    latest = call;
+  }
+
+  void threw(Throwable thrown) {
     asked++;
-    if (got != want) {
-      wrong++;
-      System.out.println(call + " answered " + got + ", due is " + want);
-    }
+    wrong++;
+    System.out.println("  " + latest + " threw " + thrown);
+  }
+
+  /** The latest call's answer. */
+  void is(long got, long want) {
+    is(latest, got, want);
+  }
+
+  void is(String what, long got, long want) {
+    asked++;
+    if (got == want) return;
+    wrong++;
+    System.out.println("  " + what + " answered " + got + ", due is " + want);
   }
 
   void same(String what, String got, String want) {
     asked++;
-    if (!got.equals(want)) {
-      wrong++;
-      System.out.println(what + ": stands\n  " + got + "\ndue is\n  " + want);
-    }
+    if (got.equals(want)) return;
+    wrong++;
+    int apart = 0;
+    while (apart < Math.min(got.length(), want.length()) && got.charAt(apart) == want.charAt(apart)) apart++;
+    System.out.println("  " + what + " stands [" + part(got, apart) + "], due is [" + part(want, apart) + "]");
   }
 
-  /** A call with an error: its answer, and that nothing that can be seen is different behind it. */
-  void error(GrooveTurns x, String call, java.util.function.LongSupplier made, long want) {
-    String before = look(x);
-    is(call, made.getAsLong(), want);
-    same("what there is behind " + call, look(x), before);
+  private static String part(String text, int at) {
+    return text.substring(Math.max(0, Math.min(text.length(), at) - 60), Math.min(text.length(), at + 40));
   }
 
-  void end() {
-    if (asked == 0) {
-      System.out.println("nothing was asked");
-      System.exit(1);
-    }
-    if (wrong != 0) {
-      System.out.println(wrong + " of " + asked + " answers are not as due");
-      System.exit(1);
-    }
+  /** A call with an error: its answer, and that everything is behind it as it was. */
+  void refused(Run x, int error, ToIntFunction<Run> call) {
+    String before = x.look();
+    int answer = call.applyAsInt(x);
+    String name = latest;
+    is(name, answer, error);
+    same("behind " + name, x.look(), before);
   }
 
-  /** Up to 8 characters as put() takes them. */
-  static long packed(String text) {
-    long number = 0;
-    for (char sign : text.toCharArray()) number = number << 8 | sign;
-    return number;
+  /** Calls that change nothing. */
+  void unchanged(Run x, Consumer<Run> calls) {
+    String before = x.look();
+    calls.accept(x);
+    same("behind " + latest, x.look(), before);
   }
 
-  static void type(GrooveTurns x, String text) {
-    for (int from = 0; from < text.length(); from += 8) {
-      x.put(packed(text.substring(from, Math.min(text.length(), from + 8))));
-    }
+  /** What is recorded as one change, and undone by one undo(); the object has a place free in its history. */
+  void isOneChange(Run x, Consumer<Run> call) {
+    String before = x.disc();
+    int undos = x.count(UNDOS);
+    call.accept(x);
+    String name = latest;
+    is("count(17) behind " + name, x.count(UNDOS), undos + 1);
+    is("undo() of " + name, x.undo(), undos);
+    same("behind undo() of " + name, x.disc(), before);
   }
 
-  /** All that the calls which change nothing tell of an object. */
-  static String look(GrooveTurns x) {
-    StringBuilder seen = new StringBuilder();
-    for (int what = 0; what < 18; what++) seen.append("c").append(what).append("=").append(x.count(what)).append(' ');
-    seen.append(disc(x)).append("fault=").append(x.fault());
-    return seen.toString();
+  Run fresh() {
+    return new Run(this);
   }
 
-  /** What look() tells, less the pad, the history and the settings, ticks and head. */
-  static String disc(GrooveTurns x) {
-    StringBuilder seen = new StringBuilder();
-    for (int address = 0; address < 192; address++) {
-      boolean isPlain = x.sector(address, 2) == GrooveTurns.NONE && x.sector(address, 3) == 0
-          && x.sector(address, 4) == 0 && x.sector(address, 5) == 0;
-      if (isPlain) continue;
-      seen.append("a").append(address).append(":");
-      for (int what = 0; what < 7; what++) seen.append(x.sector(address, what)).append(',');
-    }
-    for (int track = 0; track < 17; track++) {
-      seen.append(" t").append(track).append(":");
-      for (int what = 0; what < 4; what++) seen.append(x.track(track, what)).append(',');
-    }
-    return seen.append(' ').toString();
+  /** An object that has something of everything: blur, what is lost, a spare, a full history, both slots, a text. */
+  Run busy() {
+    Run x = fresh();
+    x.set(HEAT, 6);
+    x.set(FAR, 2);
+    x.set(WEAR, 3);
+    x.write(12, 1);
+    x.save(0);
+    x.write(24, 2);
+    x.write(36, 3);
+    for (int number = 4; number <= 6; number++) x.write(24, number);
+    // 24 is on the spare 0; 12 has 8 + 6 + 6 blur, 36 has 6 + 6.
+    x.set(LOST, 13);
+    x.read(36);
+    x.save(1);
+    x.seek(7);
+    x.idle(5);
+    x.type("w12=9;r36");
+    return x;
   }
 }
